@@ -58,13 +58,14 @@ public final class JoinRouter {
     private final boolean[] isKept = new boolean[IMAGES];
     private final Log log = new Log();
     private final Log logBefore = new Log();
-    private final Core paper = new Core();
+    /** What stood ahead of ORDERS while they run; else for what is on spare. */
+    private final Core spare = new Core();
     private final Core drawnCore = new Core();
     private boolean hasDrawn = false;
     private final Tape tape = new Tape();
     private final Reader reader = new Reader(tape);
     private final Machine machine = new Machine();
-    private final Route route = new Route(machine);
+    private final Route route = new Route(machine, now.core);
     private final Latest latest = new Latest();
     private final Running running = new Running();
     private final int[] refusals = new int[WAYS_REFUSED];
@@ -201,7 +202,7 @@ public final class JoinRouter {
         if (faultAt != NONE) {
             return refuse(BAD_TEXT);
         }
-        paper.copy(now.core);
+        spare.copy(now.core);
         logBefore.copy(log);
         Text text = reader.text;
         for (int c = 0; c < text.clauses && running.stoppedAt == NONE; c++) {
@@ -210,7 +211,7 @@ public final class JoinRouter {
         if (running.stoppedAt == NONE) {
             return accept(running.done);
         }
-        now.core.copy(paper);
+        now.core.copy(spare);
         log.copy(logBefore);
         return refuse(CANNOT_BE);
     }
@@ -315,12 +316,12 @@ public final class JoinRouter {
         if (!isRelation(of) || !isTuple(relation, a, b)) {
             return NONE;
         }
-        paper.copy(now.core);
+        spare.copy(now.core);
         int best = 0;
         int least = NO_BUDGET;
         for (int index = 0; index <= NO_INDEX; index++) {
-            paper.setIndex(of, index);
-            int cost = costOnPaper(paper, now.lawInForce(), relation, a, b);
+            spare.setIndex(of, index);
+            int cost = costOnPaper(spare, now.lawInForce(), relation, a, b);
             if (cost < least) {
                 least = cost;
                 best = index;
@@ -567,7 +568,7 @@ public final class JoinRouter {
         if (core.latestStamp() >= LAST_STAMP || route.isBarred()) {
             return CANNOT_BE;
         }
-        route.pass(0);
+        route.pass(0, 0);
         if (route.givenUp) {
             return NO_ROOM;
         }
@@ -614,35 +615,36 @@ public final class JoinRouter {
     // ---- ORDERS
 
     private void runClause(Text text, int clause) {
+        int[] numbers = running.numbers;
         int times = text.part(clause, Text.TIMES);
         for (int i = 0; i < times && running.stoppedAt == NONE; i++) {
             running.setWords(now.core);
             if (!machine.isSo(text, clause, running.words)) {
                 continue;
             }
-            if (machine.sums(text, clause, running.words, running.numbers) && obey(text.part(clause, Text.KIND))) {
-                running.done++;
-            } else {
-                running.stoppedAt = clause;
+            int answer = CANNOT_BE;
+            if (machine.setSums(text, clause, running.words, numbers)) {
+                switch (text.part(clause, Text.KIND)) {
+                    case Text.COME:
+                        answer = comeTo(now.core, log, numbers[0], numbers[1], numbers[2]);
+                        running.latestCome = answer;
+                        break;
+                    case Text.STRIKE:
+                        answer = strikeOut(numbers[0]);
+                        break;
+                    case Text.WINDOW:
+                        answer = changeWindow(numbers[0], numbers[1]);
+                        break;
+                    default:
+                        answer = changeIndex(numbers[0], numbers[1]);
+                        break;
+                }
             }
-        }
-    }
-
-    private boolean obey(int kind) {
-        int[] numbers = running.numbers;
-        switch (kind) {
-            case Text.COME:
-                int told = comeTo(now.core, log, numbers[0], numbers[1], numbers[2]);
-                running.latestCome = told;
-                return told >= 0;
-            case Text.STRIKE:
-                return strikeOut(numbers[0]) >= 0;
-            case Text.WINDOW:
-                return changeWindow(numbers[0], numbers[1]) >= 0;
-            case Text.INDEX:
-                return changeIndex(numbers[0], numbers[1]) >= 0;
-            default:
-                return false;
+            if (answer < 0) {
+                running.stoppedAt = clause;
+            } else {
+                running.done++;
+            }
         }
     }
 
@@ -651,7 +653,7 @@ public final class JoinRouter {
     private int costOnPaper(Core core, Text law, int relation, int a, int b) {
         route.setTerms(law, now.terms[MOOD], NO_BUDGET, null);
         route.setTuple(core, relation, a, b);
-        route.pass(0);
+        route.pass(0, 0);
         return route.cost;
     }
 
@@ -667,7 +669,7 @@ public final class JoinRouter {
         boolean more = true;
         for (int turn = 0; turn < MOST_ORDERS_OF_FOUR && more; turn++) {
             route.setTuple(now.core, relation, a, b);
-            route.pass(0);
+            route.pass(0, 0);
             if (route.cost < least) {
                 least = route.cost;
                 System.arraycopy(order, 0, bestRow, 0, n);
@@ -953,15 +955,15 @@ public final class JoinRouter {
 
     /** The way of one TUPLE through the OPERATORS. It changes nothing but itself. */
     private static final class Route {
-        private static final int OP = 0;
-        private static final int RELATION = 1;
-        private static final int FIELD_A = 2;
-        private static final int FIELD_B = 3;
-        private static final int SIZE = 4;
-        private static final int TICKETS = 5;
+        private static final int TICKETS = 0;
+        private static final int OP = 1;
+        private static final int RELATION = 2;
+        private static final int FIELD_A = 3;
+        private static final int FIELD_B = 4;
+        private static final int SIZE = 5;
         private static final int MARKS = 6;
-        private static final int STAMP = 7;
-        private static final int MOOD_WORD = 8;
+        private static final int MOOD_WORD = 7;
+        private static final int STAMP = 8;
         private static final int WORDS = 9;
         private static final int NO_WORD = -1;
 
@@ -971,7 +973,6 @@ public final class JoinRouter {
         private Text law;
         private int[] order;
         private int budget = 0;
-        private int allMarks = 0;
         private int open = 0;
         /** Of the PARTIAL's TUPLES the STAMPS, 0 where there is none, and the FIELDS. */
         private final int[] stamps = new int[RELATIONS];
@@ -986,9 +987,9 @@ public final class JoinRouter {
         int cost = 0;
         boolean givenUp = false;
 
-        Route(Machine machine) {
+        Route(Machine machine, Core core) {
             this.machine = machine;
-            this.core = null;
+            this.core = core;
             this.law = null;
             this.order = null;
         }
@@ -1014,7 +1015,6 @@ public final class JoinRouter {
             for (int o = 0; o < core.operators(); o++) {
                 tickets[o] = core.part(o, Core.TICKETS);
             }
-            allMarks = (1 << core.operators()) - 1;
             open = 0;
             results = 0;
             shutCount = 0;
@@ -1036,21 +1036,21 @@ public final class JoinRouter {
             return false;
         }
 
-        /** The PARTIAL goes on; each further call has a MARK more, so that there are few levels. */
-        void pass(int marks) {
-            if (marks == allMarks) {
+        /** The PARTIAL goes on. The depth is how many MARKS it has: as there is one more at each level, four is the end. */
+        private void pass(int marks, int depth) {
+            if (depth >= core.operators()) {
                 addResult();
                 return;
             }
             int operator = chosen(marks);
             if (operator != NONE) {
-                takeBy(operator, marks);
+                takeBy(operator, marks, depth);
             }
         }
 
-        private void takeBy(int operator, int marks) {
+        private void takeBy(int operator, int marks, int depth) {
             int opened = relationToOpen(operator);
-            int costs = costOf(operator, opened == NONE ? 1 : looksAt(operator, opened), marks);
+            int costs = costOf(operator, opened == NONE ? 1 : looksAt(operator, opened), depth);
             if (cost + costs > budget) {
                 givenUp = true;
                 return;
@@ -1058,23 +1058,23 @@ public final class JoinRouter {
             cost += costs;
             tickets[operator]++;
             if (opened != NONE) {
-                passAll(operator, opened, marks);
+                passAll(operator, opened, marks, depth);
             } else if (isSo(operator)) {
                 tickets[operator]--;
-                pass(marks | 1 << operator);
+                pass(marks | 1 << operator, depth + 1);
             }
         }
 
-        private void passAll(int operator, int opened, int marks) {
+        private void passAll(int operator, int opened, int marks, int depth) {
             int field = fieldIn(operator, opened);
-            int same = fieldThere(operator, opened);
+            int same = valueThere(operator, opened);
             open++;
             deepest = Math.max(deepest, open);
             for (int i = 0; i < core.held(opened) && !givenUp; i++) {
                 if (core.cell(opened, i, field) == same) {
                     hold(opened, core.cell(opened, i, 0), core.cell(opened, i, 1), core.cell(opened, i, Core.STAMP_OF));
                     tickets[operator]--;
-                    pass(marks | 1 << operator);
+                    pass(marks | 1 << operator, depth + 1);
                 }
             }
             stamps[opened] = 0;
@@ -1141,7 +1141,7 @@ public final class JoinRouter {
         }
 
         /** What the FIELD is that the PARTIAL has, of a JOIN that opens a STATE. */
-        private int fieldThere(int operator, int opened) {
+        private int valueThere(int operator, int opened) {
             boolean opensFirst = core.part(operator, 1) == opened;
             int relation = opensFirst ? core.part(operator, 3) : core.part(operator, 1);
             int field = opensFirst ? core.part(operator, 4) : core.part(operator, 2);
@@ -1153,7 +1153,7 @@ public final class JoinRouter {
             if (core.indexOn(opened) != field) {
                 return core.held(opened);
             }
-            int bucket = bucketOf(fieldThere(operator, opened));
+            int bucket = bucketOf(valueThere(operator, opened));
             int looked = 0;
             for (int i = 0; i < core.held(opened); i++) {
                 if (bucketOf(core.cell(opened, i, field)) == bucket) {
@@ -1181,11 +1181,11 @@ public final class JoinRouter {
             return third == 1 ? value == fourth : value > fourth;
         }
 
-        private int costOf(int operator, int looks, int marks) {
+        private int costOf(int operator, int looks, int depth) {
             words[OP] = operator;
             words[SIZE] = looks;
             words[TICKETS] = tickets[operator];
-            words[MARKS] = Integer.bitCount(marks);
+            words[MARKS] = depth;
             for (int c = law == null ? -1 : law.clauses - 1; c >= 0; c--) {
                 if (law.part(c, Text.KIND) == Text.COSTS && machine.isSo(law, c, words)) {
                     long costs = machine.value(law.code, law.part(c, Text.SUMS), words);
@@ -1200,8 +1200,8 @@ public final class JoinRouter {
 
     /** What ORDERS know of themselves while they are run. */
     private static final class Running {
-        private static final int HELD = 5;
-        private static final int TICKETS = 8;
+        static final int HELD = 5;
+        static final int TICKETS = 8;
         private static final int WORDS = 12;
 
         final int[] words = new int[WORDS];
@@ -1289,11 +1289,21 @@ public final class JoinRouter {
             clauses++;
         }
 
-        void emit(int step, int with) {
-            if (length + 1 < code.length) {
-                code[length] = step;
-                code[length + 1] = with;
-                length += 2;
+        /** Where the step is. */
+        int emit(int step, int with) {
+            int at = length;
+            if (at + 1 < code.length) {
+                code[at] = step;
+                code[at + 1] = with;
+                length = at + 2;
+            }
+            return at;
+        }
+
+        /** A leap goes to where the code ends now. */
+        void landLeap(int leap) {
+            if (leap + 1 < code.length) {
+                code[leap + 1] = length;
             }
         }
     }
@@ -1330,7 +1340,7 @@ public final class JoinRouter {
         }
 
         /** The SUMS of a CLAUSE; false if one is BROKEN. */
-        boolean sums(Text text, int clause, int[] words, int[] numbers) {
+        boolean setSums(Text text, int clause, int[] words, int[] numbers) {
             for (int i = 0; i < Text.MOST_SUMS; i++) {
                 int from = text.part(clause, Text.SUMS + i);
                 long sum = from == NONE ? 0 : value(text.code, from, words);
@@ -1429,36 +1439,119 @@ public final class JoinRouter {
         }
     }
 
-    /** Reads a TEXT from the TAPE, TOKEN by TOKEN; what can't go on leaves it at that TOKEN. */
-    private static final class Reader {
-        private static final String LAW_NAMES = "costs bars";
-        private static final String LAW_WORDS = "op relation a b size tickets marks stamp mood";
-        private static final String ORDER_NAMES = "come strike window index";
-        private static final String ORDER_WORDS = "stamp done latest results operators held tickets";
-        private static final int HELD = 5;
-        private static final int TICKETS = 6;
+    /** The TOKENS of a TEXT: single bytes as they are, rows of digits as DIGITS, words by their place among WORDS. */
+    private static final class Tokens {
+        static final int END = 256;
+        static final int DIGITS = 257;
+        static final int UNKNOWN = 258;
+        static final int TICKETS = 259;
+        static final int STAMP = 267;
+        static final int HELD = 272;
+        static final int COSTS = 273;
+        static final int BARS = 274;
+        static final int COME = 275;
+        static final int INDEX = 278;
+        static final int WITH = 279;
+        static final int TO = 280;
+        static final int TIMES = 281;
+        static final int IF = 282;
+        static final int OR = 283;
+        static final int AND = 284;
+        static final int NOT = 285;
+        /** The words of LAWS are the first nine, those of ORDERS "tickets" and "stamp" to "held". */
+        private static final String WORDS = "tickets op relation a b size marks mood stamp done latest results operators held costs bars come strike window index with to times if or and not";
+        private static final int TOO_MUCH = 1001;
 
+        private final Tape tape;
+        final int[] kinds = new int[MOST_BYTES + 1];
+        final int[] places = new int[MOST_BYTES + 1];
+        final int[] numbers = new int[MOST_BYTES + 1];
+
+        Tokens(Tape tape) {
+            this.tape = tape;
+        }
+
+        void readAll() {
+            int count = 0;
+            int at = 0;
+            for (; at < tape.length; at++) {
+                if (tape.at(at) != ' ') {
+                    places[count] = at;
+                    at = readOne(count, at);
+                    count++;
+                }
+            }
+            kinds[count] = END;
+            places[count] = tape.length;
+        }
+
+        /** Where the last byte of the TOKEN is that begins there. */
+        private int readOne(int i, int from) {
+            int to = from;
+            numbers[i] = 0;
+            if (isDigitAt(from)) {
+                kinds[i] = DIGITS;
+                for (; isDigitAt(to); to++) {
+                    // A row of many digits must not wrap round to a NUMBER that can be.
+                    numbers[i] = Math.min(TOO_MUCH, numbers[i] * 10 + tape.at(to) - '0');
+                }
+                return to - 1;
+            }
+            for (; isLetterAt(to); to++) {
+                continue;
+            }
+            kinds[i] = to == from ? tape.at(from) : wordAt(from, to);
+            return Math.max(from, to - 1);
+        }
+
+        private boolean isDigitAt(int i) {
+            return i < tape.length && tape.at(i) >= '0' && tape.at(i) <= '9';
+        }
+
+        private boolean isLetterAt(int i) {
+            return i < tape.length && tape.at(i) >= 'a' && tape.at(i) <= 'z';
+        }
+
+        private int wordAt(int from, int to) {
+            int word = TICKETS;
+            int begin = 0;
+            for (int i = 0; i <= WORDS.length(); i++) {
+                if (i == WORDS.length() || WORDS.charAt(i) == ' ') {
+                    if (i - begin == to - from && isSpelt(from, to, begin)) {
+                        return word;
+                    }
+                    word++;
+                    begin = i + 1;
+                }
+            }
+            return UNKNOWN;
+        }
+
+        private boolean isSpelt(int from, int to, int begin) {
+            for (int i = from; i < to; i++) {
+                if (tape.at(i) != WORDS.charAt(begin + i - from)) {
+                    return false;
+                }
+            }
+            return true;
+        }
+    }
+
+    /** Reads a TEXT; what can't go on leaves it at that TOKEN. */
+    private static final class Reader {
         private static final int MOST_NUMBER = 1000;
         private static final int MOST_TIMES = 20;
         private static final int MOST_PARTS = 50;
         private static final int MOST_BRACKETS = 8;
 
-        private static final int END = 0;
-        private static final int LETTERS = 1;
-        private static final int DIGITS = 2;
-        private static final int SIGN = 3;
-
-        private final Tape tape;
+        private final Tokens tokens;
         final Text text = new Text();
         private boolean isLaw = false;
         private int parts = 0;
-        private int start = 0;
         private int at = 0;
-        private int kind = END;
-        private int number = 0;
 
         Reader(Tape tape) {
-            this.tape = tape;
+            this.tokens = new Tokens(tape);
         }
 
         /** FAULT, NONE without; what was read is in text then, till the next is read. */
@@ -1468,36 +1561,49 @@ public final class JoinRouter {
             at = 0;
             text.clauses = 0;
             text.length = 0;
-            advance();
+            tokens.readAll();
             for (int i = 0; i < Text.MOST_CLAUSES; i++) {
                 if (!readClause()) {
-                    return start;
+                    return tokens.places[at];
                 }
-                if (kind == END) {
+                if (is(Tokens.END)) {
                     return NONE;
                 }
-                if (!isSign(';')) {
-                    return start;
+                if (!skip(';')) {
+                    return tokens.places[at];
                 }
-                advance();
             }
-            return start;
+            return tokens.places[at];
+        }
+
+        private boolean is(int kind) {
+            return tokens.kinds[at] == kind;
+        }
+
+        /** On to the next TOKEN, if it is this one. */
+        private boolean skip(int kind) {
+            if (tokens.kinds[at] != kind || kind == Tokens.END) {
+                return false;
+            }
+            at++;
+            return true;
         }
 
         private boolean readClause() {
-            int name = wordIn(isLaw ? LAW_NAMES : ORDER_NAMES);
-            if (name == NONE) {
+            int first = isLaw ? Tokens.COSTS : Tokens.COME;
+            int last = isLaw ? Tokens.BARS : Tokens.INDEX;
+            int kind = tokens.kinds[at] - first;
+            if (kind < 0 || kind > last - first) {
                 return false;
             }
-            text.beginClause(name);
-            advance();
-            if (!(isLaw ? readLaw(name) : readOrder(name))) {
+            text.beginClause(kind);
+            at++;
+            if (!(isLaw ? kind == Text.BARS || readWhole(0) : readOrder(kind))) {
                 return false;
             }
-            if (!isWord("if")) {
+            if (!skip(Tokens.IF)) {
                 return true;
             }
-            advance();
             text.setPart(text.clauses - 1, Text.TEST, text.length);
             if (!readTest(0)) {
                 return false;
@@ -1506,38 +1612,26 @@ public final class JoinRouter {
             return true;
         }
 
-        private boolean readLaw(int name) {
-            return name == Text.BARS || readWhole(0);
-        }
-
-        private boolean readOrder(int name) {
+        private boolean readOrder(int kind) {
             if (!readWhole(0)) {
                 return false;
             }
-            if (name == Text.COME && !(readBehind("with", 1) && readBehind("and", 2))) {
+            if (kind == Text.COME && !(skip(Tokens.WITH) && readWhole(1) && skip(Tokens.AND) && readWhole(2))) {
                 return false;
             }
-            if ((name == Text.WINDOW || name == Text.INDEX) && !readBehind("to", 1)) {
+            if ((kind == Text.WINDOW || kind == Text.INDEX) && !(skip(Tokens.TO) && readWhole(1))) {
                 return false;
             }
-            if (!isWord("times")) {
+            if (!skip(Tokens.TIMES)) {
                 return true;
             }
-            advance();
-            if (kind != DIGITS || number < 1 || number > MOST_TIMES) {
+            int times = numberTo(MOST_TIMES);
+            if (times < 1) {
                 return false;
             }
-            text.setPart(text.clauses - 1, Text.TIMES, number);
-            advance();
+            at++;
+            text.setPart(text.clauses - 1, Text.TIMES, times);
             return true;
-        }
-
-        private boolean readBehind(String word, int i) {
-            if (!isWord(word)) {
-                return false;
-            }
-            advance();
-            return readWhole(i);
         }
 
         /** The i-th SUM of a CLAUSE. */
@@ -1556,14 +1650,12 @@ public final class JoinRouter {
             if (!readBoth(depth)) {
                 return false;
             }
-            for (int i = 0; i < MOST_BYTES && isWord("or"); i++) {
-                advance();
-                int leap = text.length;
-                text.emit(Machine.LEAP_IF_SO, 0);
+            for (int i = 0; i < MOST_BYTES && skip(Tokens.OR); i++) {
+                int leap = text.emit(Machine.LEAP_IF_SO, 0);
                 if (!readBoth(depth)) {
                     return false;
                 }
-                endLeap(leap);
+                text.landLeap(leap);
             }
             return true;
         }
@@ -1572,32 +1664,31 @@ public final class JoinRouter {
             if (!readPlain(depth)) {
                 return false;
             }
-            for (int i = 0; i < MOST_BYTES && isWord("and"); i++) {
-                advance();
-                int leap = text.length;
-                text.emit(Machine.LEAP_IF_NOT, 0);
+            for (int i = 0; i < MOST_BYTES && skip(Tokens.AND); i++) {
+                int leap = text.emit(Machine.LEAP_IF_NOT, 0);
                 if (!readPlain(depth)) {
                     return false;
                 }
-                endLeap(leap);
+                text.landLeap(leap);
             }
             return true;
-        }
-
-        private void endLeap(int leap) {
-            if (leap + 1 < text.code.length) {
-                text.code[leap + 1] = text.length;
-            }
         }
 
         private boolean readPlain(int depth) {
             boolean isTurned = false;
             // A loop, as a call for each "not" would go too deep.
-            for (int i = 0; i < MOST_BYTES && isWord("not"); i++) {
+            for (int i = 0; i < MOST_BYTES && skip(Tokens.NOT); i++) {
                 isTurned = !isTurned;
-                advance();
             }
-            if (!(isSign('(') ? readBracketed(depth) : readCompared(depth))) {
+            if (is('(')) {
+                if (depth >= MOST_BRACKETS) {
+                    return false;
+                }
+                at++;
+                if (!readTest(depth + 1) || !skip(')')) {
+                    return false;
+                }
+            } else if (!readCompared(depth)) {
                 return false;
             }
             if (isTurned) {
@@ -1606,28 +1697,12 @@ public final class JoinRouter {
             return true;
         }
 
-        private boolean readBracketed(int depth) {
-            if (depth >= MOST_BRACKETS) {
-                return false;
-            }
-            advance();
-            if (!readTest(depth + 1) || !isSign(')')) {
-                return false;
-            }
-            advance();
-            return true;
-        }
-
         private boolean readCompared(int depth) {
             if (!readSum(depth)) {
                 return false;
             }
-            int step = isSign('<') ? Machine.BELOW : isSign('>') ? Machine.ABOVE : Machine.SAME;
-            if (step == Machine.SAME && !isSign('=')) {
-                return false;
-            }
-            advance();
-            if (!readSum(depth)) {
+            int step = is('<') ? Machine.BELOW : is('>') ? Machine.ABOVE : Machine.SAME;
+            if (!skip('<') && !skip('>') && !skip('=') || !readSum(depth)) {
                 return false;
             }
             text.emit(step, 0);
@@ -1638,9 +1713,9 @@ public final class JoinRouter {
             if (!readTerm(depth)) {
                 return false;
             }
-            for (int i = 0; i < MOST_BYTES && (isSign('+') || isSign('-')); i++) {
-                int step = isSign('+') ? Machine.PLUS : Machine.MINUS;
-                advance();
+            for (int i = 0; i < MOST_BYTES && (is('+') || is('-')); i++) {
+                int step = is('+') ? Machine.PLUS : Machine.MINUS;
+                at++;
                 if (!readTerm(depth)) {
                     return false;
                 }
@@ -1653,9 +1728,9 @@ public final class JoinRouter {
             if (!readPart(depth)) {
                 return false;
             }
-            for (int i = 0; i < MOST_BYTES && (isSign('*') || isSign('/') || isSign('%')); i++) {
-                int step = isSign('*') ? Machine.TIMES : isSign('/') ? Machine.BY : Machine.REST;
-                advance();
+            for (int i = 0; i < MOST_BYTES && (is('*') || is('/') || is('%')); i++) {
+                int step = is('*') ? Machine.TIMES : is('/') ? Machine.BY : Machine.REST;
+                at++;
                 if (!readPart(depth)) {
                     return false;
                 }
@@ -1665,114 +1740,43 @@ public final class JoinRouter {
         }
 
         private boolean readPart(int depth) {
-            if (!isSign('[')) {
-                return readSingle();
+            if (!is('[')) {
+                return parts < MOST_PARTS && readSingle();
             }
             if (depth >= MOST_BRACKETS) {
                 return false;
             }
-            advance();
-            if (!readSum(depth + 1) || !isSign(']')) {
-                return false;
-            }
-            advance();
-            return true;
+            at++;
+            return readSum(depth + 1) && skip(']');
         }
 
         private boolean readSingle() {
-            int word = wordIn(isLaw ? LAW_WORDS : ORDER_WORDS);
-            if (parts >= MOST_PARTS || word == NONE && (kind != DIGITS || number > MOST_NUMBER)) {
-                return false;
-            }
             parts++;
-            if (word == NONE) {
-                text.emit(Machine.NUMBER, number);
-                advance();
-                return true;
-            }
-            advance();
-            if (isLaw || word < HELD) {
-                text.emit(Machine.WORD, word);
-                return true;
-            }
-            return readWhose(word);
-        }
-
-        /** Of "held" the RELATION, of "tickets" the OPERATOR. */
-        private boolean readWhose(int word) {
-            int those = word == TICKETS ? MOST_OPERATORS : RELATIONS;
-            if (kind != DIGITS || number >= those) {
-                return false;
-            }
-            text.emit(Machine.WORD, number + (word == TICKETS ? Running.TICKETS : Running.HELD));
-            advance();
-            return true;
-        }
-
-        // TOKENS
-
-        private void advance() {
-            for (; at < tape.length && tape.at(at) == ' '; at++) {
-                continue;
-            }
-            start = at;
-            number = 0;
-            kind = kindAt(at);
-            if (kind == SIGN) {
+            int kind = tokens.kinds[at];
+            int with = NONE;
+            if (kind == Tokens.DIGITS) {
+                with = numberTo(MOST_NUMBER);
+            } else if (isLaw) {
+                with = kind >= Tokens.TICKETS && kind <= Tokens.STAMP ? kind - Tokens.TICKETS : NONE;
+            } else if (kind == Tokens.HELD || kind == Tokens.TICKETS) {
                 at++;
-                return;
+                int which = numberTo((kind == Tokens.HELD ? RELATIONS : MOST_OPERATORS) - 1);
+                with = which == NONE ? NONE : which + (kind == Tokens.HELD ? Running.HELD : Running.TICKETS);
+            } else if (kind >= Tokens.STAMP && kind < Tokens.HELD) {
+                with = kind - Tokens.STAMP;
             }
-            for (; at < tape.length && kindAt(at) == kind; at++) {
-                // No row of digits grows beyond what is too much anyway.
-                number = kind == DIGITS ? Math.min(MOST_NUMBER + 1, number * 10 + tape.at(at) - '0') : 0;
-            }
-        }
-
-        private int kindAt(int i) {
-            if (i >= tape.length) {
-                return END;
-            }
-            int sign = tape.at(i);
-            if (sign >= 'a' && sign <= 'z') {
-                return LETTERS;
-            }
-            return sign >= '0' && sign <= '9' ? DIGITS : SIGN;
-        }
-
-        private boolean isSign(char sign) {
-            return kind == SIGN && tape.at(start) == sign;
-        }
-
-        private boolean isWord(String word) {
-            return isSpelt(word, 0, word.length());
-        }
-
-        /** Which word of a list with blanks between the TOKEN is. */
-        private int wordIn(String list) {
-            int which = 0;
-            int from = 0;
-            for (int i = 0; i <= list.length(); i++) {
-                if (i == list.length() || list.charAt(i) == ' ') {
-                    if (isSpelt(list, from, i)) {
-                        return which;
-                    }
-                    which++;
-                    from = i + 1;
-                }
-            }
-            return NONE;
-        }
-
-        private boolean isSpelt(String list, int from, int to) {
-            if (kind != LETTERS || at - start != to - from) {
+            if (with == NONE) {
                 return false;
             }
-            for (int i = from; i < to; i++) {
-                if (tape.at(start + i - from) != list.charAt(i)) {
-                    return false;
-                }
-            }
+            at++;
+            text.emit(kind == Tokens.DIGITS ? Machine.NUMBER : Machine.WORD, with);
             return true;
+        }
+
+        /** The TOKEN, if it is a NUMBER and not above that one; else NONE. */
+        private int numberTo(int most) {
+            boolean isFit = tokens.kinds[at] == Tokens.DIGITS && tokens.numbers[at] <= most;
+            return isFit ? tokens.numbers[at] : NONE;
         }
     }
 }
