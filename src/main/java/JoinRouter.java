@@ -62,10 +62,9 @@ public final class JoinRouter {
     private final Core spare = new Core();
     private final Core drawnCore = new Core();
     private boolean hasDrawn = false;
-    private final Tape tape = new Tape();
-    private final Reader reader = new Reader(tape);
-    private final Machine machine = new Machine();
-    private final Route route = new Route(machine, now.core);
+    private final Reader reader = new Reader();
+    private final Tape tape = reader.tokens.tape;
+    private final Route route = new Route();
     private final Latest latest = new Latest();
     private final Running running = new Running();
     private final int[] refusals = new int[WAYS_REFUSED];
@@ -619,11 +618,11 @@ public final class JoinRouter {
         int times = text.part(clause, Text.TIMES);
         for (int i = 0; i < times && running.stoppedAt == NONE; i++) {
             running.setWords(now.core);
-            if (!machine.isSo(text, clause, running.words)) {
+            if (!running.machine.isSo(text, clause, running.words)) {
                 continue;
             }
             int answer = CANNOT_BE;
-            if (machine.setSums(text, clause, running.words, numbers)) {
+            if (running.machine.setSums(text, clause, running.words, numbers)) {
                 switch (text.part(clause, Text.KIND)) {
                     case Text.COME:
                         answer = comeTo(now.core, log, numbers[0], numbers[1], numbers[2]);
@@ -967,11 +966,11 @@ public final class JoinRouter {
         private static final int WORDS = 9;
         private static final int NO_WORD = -1;
 
-        private final Machine machine;
+        private final Machine machine = new Machine();
         private final int[] words = new int[WORDS];
-        private Core core;
-        private Text law;
-        private int[] order;
+        private Core core = new Core();
+        private Text law = null;
+        private int[] order = null;
         private int budget = 0;
         private int open = 0;
         /** Of the PARTIAL's TUPLES the STAMPS, 0 where there is none, and the FIELDS. */
@@ -986,13 +985,6 @@ public final class JoinRouter {
         int deepest = 0;
         int cost = 0;
         boolean givenUp = false;
-
-        Route(Machine machine, Core core) {
-            this.machine = machine;
-            this.core = core;
-            this.law = null;
-            this.order = null;
-        }
 
         /** With an order TICKETS don't choose. */
         void setTerms(Text law, int mood, int budget, int[] order) {
@@ -1204,6 +1196,7 @@ public final class JoinRouter {
         static final int TICKETS = 8;
         private static final int WORDS = 12;
 
+        final Machine machine = new Machine();
         final int[] words = new int[WORDS];
         final int[] numbers = new int[Text.MOST_SUMS];
         int done = 0;
@@ -1462,14 +1455,10 @@ public final class JoinRouter {
         private static final String WORDS = "tickets op relation a b size marks mood stamp done latest results operators held costs bars come strike window index with to times if or and not";
         private static final int TOO_MUCH = 1001;
 
-        private final Tape tape;
+        final Tape tape = new Tape();
         final int[] kinds = new int[MOST_BYTES + 1];
         final int[] places = new int[MOST_BYTES + 1];
         final int[] numbers = new int[MOST_BYTES + 1];
-
-        Tokens(Tape tape) {
-            this.tape = tape;
-        }
 
         void readAll() {
             int count = 0;
@@ -1544,15 +1533,11 @@ public final class JoinRouter {
         private static final int MOST_PARTS = 50;
         private static final int MOST_BRACKETS = 8;
 
-        private final Tokens tokens;
+        final Tokens tokens = new Tokens();
         final Text text = new Text();
         private boolean isLaw = false;
         private int parts = 0;
         private int at = 0;
-
-        Reader(Tape tape) {
-            this.tokens = new Tokens(tape);
-        }
 
         /** FAULT, NONE without; what was read is in text then, till the next is read. */
         int read(boolean asLaw) {
