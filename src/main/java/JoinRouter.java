@@ -1319,8 +1319,9 @@ public final class JoinRouter {
         static final int ABOVE = 12;
         static final int SAME = 13;
 
-        static final long BROKEN = Long.MIN_VALUE;
         private static final long FARTHEST = 1000000000L;
+        /** Beyond all that a SUM can be. */
+        static final long BROKEN = 2000000000L;
         /** No more than the PARTS of a TEXT ever stand on it. */
         private static final int DEPTH = 64;
 
@@ -1461,44 +1462,43 @@ public final class JoinRouter {
         final int[] numbers = new int[MOST_BYTES + 1];
 
         void readAll() {
-            int count = 0;
-            int at = 0;
-            for (; at < tape.length; at++) {
+            int many = 0;
+            for (int at = 0; at < tape.length; at++) {
                 if (tape.at(at) != ' ') {
-                    places[count] = at;
-                    at = readOne(count, at);
-                    count++;
+                    places[many] = at;
+                    at = readOne(many, at);
+                    many++;
                 }
             }
-            kinds[count] = END;
-            places[count] = tape.length;
+            kinds[many] = END;
+            places[many] = tape.length;
         }
 
         /** Where the last byte of the TOKEN is that begins there. */
         private int readOne(int i, int from) {
             int to = from;
             numbers[i] = 0;
-            if (isDigitAt(from)) {
+            if (isFigure(tape.at(from))) {
                 kinds[i] = DIGITS;
-                for (; isDigitAt(to); to++) {
+                for (; to < tape.length && isFigure(tape.at(to)); to++) {
                     // A row of many digits must not wrap round to a NUMBER that can be.
                     numbers[i] = Math.min(TOO_MUCH, numbers[i] * 10 + tape.at(to) - '0');
                 }
                 return to - 1;
             }
-            for (; isLetterAt(to); to++) {
+            for (; to < tape.length && isLetter(tape.at(to)); to++) {
                 continue;
             }
             kinds[i] = to == from ? tape.at(from) : wordAt(from, to);
             return Math.max(from, to - 1);
         }
 
-        private boolean isDigitAt(int i) {
-            return i < tape.length && tape.at(i) >= '0' && tape.at(i) <= '9';
+        private static boolean isFigure(int sign) {
+            return sign >= '0' && sign <= '9';
         }
 
-        private boolean isLetterAt(int i) {
-            return i < tape.length && tape.at(i) >= 'a' && tape.at(i) <= 'z';
+        private static boolean isLetter(int sign) {
+            return sign >= 'a' && sign <= 'z';
         }
 
         private int wordAt(int from, int to) {
