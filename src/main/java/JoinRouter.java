@@ -58,7 +58,7 @@ public final class JoinRouter {
     private final boolean[] isKept = new boolean[IMAGES];
     private final Log log = new Log();
     private final Log logBefore = new Log();
-    /** What stood ahead of ORDERS while they run; else for what is on spare. */
+    /** All as it was ahead of ORDERS, while they are run; else for what is reckoned on paper. */
     private final Core spare = new Core();
     private final Core drawnCore = new Core();
     private boolean hasDrawn = false;
@@ -817,10 +817,11 @@ public final class JoinRouter {
         }
 
         int removeOperator(int operator) {
-            int at = TOLD + operator * OPERATOR_CELLS;
-            int behind = (cells[OPERATORS] - 1 - operator) * OPERATOR_CELLS;
-            System.arraycopy(cells, at + OPERATOR_CELLS, cells, at, behind);
             cells[OPERATORS]--;
+            int end = TOLD + cells[OPERATORS] * OPERATOR_CELLS;
+            for (int at = TOLD + operator * OPERATOR_CELLS; at < end; at++) {
+                cells[at] = cells[at + OPERATOR_CELLS];
+            }
             return cells[OPERATORS];
         }
 
@@ -852,10 +853,12 @@ public final class JoinRouter {
         }
 
         private void dropOldest(int relation, int n) {
-            int at = TUPLES + relation * MOST_WINDOW * TUPLE_CELLS;
-            int left = cells[HELD + relation] - n;
-            System.arraycopy(cells, at + n * TUPLE_CELLS, cells, at, left * TUPLE_CELLS);
-            cells[HELD + relation] = left;
+            cells[HELD + relation] -= n;
+            int first = TUPLES + relation * MOST_WINDOW * TUPLE_CELLS;
+            int end = first + cells[HELD + relation] * TUPLE_CELLS;
+            for (int at = first; at < end; at++) {
+                cells[at] = cells[at + n * TUPLE_CELLS];
+            }
         }
     }
 

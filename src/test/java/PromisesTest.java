@@ -428,6 +428,12 @@ public final class PromisesTest {
         due(lawFault("costs 00000000000000000001001"), 6);
         due(lawFault("costs 4294967297"), 6);
         due(lawFault("costs 99999999999999999999999999999"), 6);
+        // As many TOKENS as bytes.
+        due(lawFault(times(";", 400)), 0);
+        due(lawFault("costs " + times("[", 394)), 14);
+        due(lawFault("costs 1" + times(" ", 393)), NONE);
+        due(lawFault("costs 1+" + times(" ", 392)), 400);
+        due(lawFault("bars if " + times("not ", 97) + "a=1" + " "), NONE);
     }
 
     private static void lawMeaning() {
