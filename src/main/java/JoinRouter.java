@@ -1466,8 +1466,11 @@ public final class JoinRouter {
 
         void readAll() {
             int many = 0;
-            for (int at = 0; at < tape.length; at++) {
-                if (tape.at(at) != ' ') {
+            int at = 0;
+            for (int i = 0; i < MOST_BYTES && at < tape.length; i++) {
+                if (tape.at(at) == ' ') {
+                    at++;
+                } else {
                     places[many] = at;
                     at = readOne(many, at);
                     many++;
@@ -1477,7 +1480,7 @@ public final class JoinRouter {
             places[many] = tape.length;
         }
 
-        /** Where the last byte of the TOKEN is that begins there. */
+        /** Where what stands behind the TOKEN begins. */
         private int readOne(int i, int from) {
             int to = from;
             numbers[i] = 0;
@@ -1487,13 +1490,13 @@ public final class JoinRouter {
                     // A row of many digits must not wrap round to a NUMBER that can be.
                     numbers[i] = Math.min(TOO_MUCH, numbers[i] * 10 + tape.at(to) - '0');
                 }
-                return to - 1;
+                return to;
             }
             for (; to < tape.length && isLetter(tape.at(to)); to++) {
                 continue;
             }
             kinds[i] = to == from ? tape.at(from) : wordAt(from, to);
-            return Math.max(from, to - 1);
+            return Math.max(from + 1, to);
         }
 
         private static boolean isFigure(int sign) {

@@ -63,6 +63,10 @@ public final class ModelTest {
 
     /** Mostly what can be, sometimes beside it. */
     private int near(int least, int most) {
+        if (random.nextInt(150) == 0) {
+            int[] far = {Integer.MIN_VALUE, Integer.MAX_VALUE, Integer.MIN_VALUE + 1, -1000, 1000, 1 << 16};
+            return far[random.nextInt(far.length)];
+        }
         return random.nextInt(14) == 0 ? random.nextBoolean() ? least - 1 - upTo(2) : most + 1 + upTo(2) : least + random.nextInt(most - least + 1);
     }
 
