@@ -264,6 +264,8 @@ abstract class Check {
             all.put("compare(" + law + ", 0, 2, 3)", (long) x.compare(law, 0, 2, 3));
         }
         all.put("brings(0, 2, 3, 1)", (long) x.brings(0, 2, 3, 1));
+        // Last of a TUPLE whose way is another one, so that no later call can take it for its own.
+        all.put("brings(1, 9, 9, 0)", (long) x.brings(1, 9, 9, 0));
         all.put("few(3, 9)", x.few(3, 9));
         return all;
     }

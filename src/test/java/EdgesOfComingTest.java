@@ -192,6 +192,30 @@ public final class EdgesOfComingTest extends Check {
         }
     }
 
+    @Says("for each TUPLE of it of which the FIELD is the same")
+    static void bothFieldsOfTheOther() {
+        // The JOIN asks one FIELD of the other TUPLE, a FILTER or a JOIN behind it the other one.
+        for (int field = 0; field <= 1; field++) {
+            for (int v = 0; v <= 9; v++) {
+                JoinRouter x = new JoinRouter();
+                x.come(1, field == 0 ? 3 : v, field == 1 ? 3 : v);
+                x.come(2, v, v);
+                x.join(0, 0, 1, field);
+                x.filter(1, 1 - field, 1, v);
+                due(x.brings(0, 3, 9, 0), 1);
+                due(x.brings(0, 4, 9, 0), 0);
+                x.strike(1);
+                x.filter(1, 1 - field, 1, (v + 1) % 10);
+                due(x.brings(0, 3, 9, 0), 0);
+                x.strike(1);
+                x.join(1, 1 - field, 2, 0);
+                due(x.brings(0, 3, 9, 0), 1);
+                due(x.come(0, 3, 9), 1);
+                due(x.result(0, 2), 2);
+            }
+        }
+    }
+
     @Says("by rising STAMPS, there is a PARTIAL with it, too, and the MARK, the OPERATOR has a TICKET less")
     static void risingStamps() {
         JoinRouter x = new JoinRouter();
@@ -675,6 +699,7 @@ public final class EdgesOfComingTest extends Check {
             due(x.ask(1), Math.min(a[0], Math.min(a[1], a[2])));
         }
         JoinRouter x = new JoinRouter();
+        x.filter(0, 0, 0, 9);
         x.window(2, 9);
         for (int i = 0; i < 9; i++) {
             x.come(2, i, 9);
@@ -827,6 +852,28 @@ public final class EdgesOfComingTest extends Check {
         due(x.drawn(0, 1), 0);
         due(x.drawn(1, 1), 0);
         due(x.drawn(2, 1) > 0);
+    }
+
+    @Says("a TUPLE of the RELATION of the first with FIELDS the second, the third COMES")
+    static void fieldsOfDays() {
+        for (int field = 0; field <= 1; field++) {
+            for (int v = 0; v <= 4; v++) {
+                JoinRouter x = new JoinRouter();
+                law(x, "bars if " + (field == 0 ? "a=" : "b=") + v);
+                x.force(0);
+                int came = 0;
+                long s = 4711;
+                for (int i = 0; i < 60; i++) {
+                    int[] d = new int[4];
+                    for (int j = 0; j < 4; j++) {
+                        s = (s * 1103 + 12345) % 1000003;
+                        d[j] = (int) (s % new int[] {3, 4, 4, 8}[j]);
+                    }
+                    came += d[3] < 7 && d[1 + field] != v ? 1 : 0;
+                }
+                due(x.days(4711, 60), came);
+            }
+        }
     }
 
     @Says("COMES, if it can (given up, nothing stays)")

@@ -272,18 +272,33 @@ public final class EdgesOfTermsTest extends Check {
 
     @Says("a JOIN: a FIELD of a RELATION is the same as one of another RELATION")
     static void joinsOfAllFields() {
-        for (int f = 0; f <= 1; f++) {
-            for (int g = 0; g <= 1; g++) {
-                for (int v = 0; v <= 9; v++) {
+        for (int kind = 0; kind < 24; kind++) {
+            int one = kind / 8;
+            int other = (one + 1 + kind % 2) % 3;
+            int f = kind / 2 % 2;
+            int g = kind / 4 % 2;
+            for (int v = 0; v <= 9; v++) {
+                // Either of them comes last.
+                for (int last : new int[] {one, other}) {
                     JoinRouter x = new JoinRouter();
-                    x.join(2, f, 0, g);
-                    x.come(0, g == 0 ? v : (v + 5) % 10, g == 1 ? v : (v + 5) % 10);
+                    due(x.join(one, f, other, g), 0);
+                    int first = last == one ? other : one;
+                    comeWith(x, first, first == one ? f : g, v);
                     for (int u = 0; u <= 9; u++) {
-                        due(x.brings(2, f == 0 ? u : (u + 3) % 10, f == 1 ? u : (u + 3) % 10, 0), u == v ? 1 : 0);
+                        due(x.brings(last, withField(last == one ? f : g, u, 0), withField(last == one ? f : g, u, 1), 0), u == v ? 1 : 0);
                     }
                 }
             }
         }
+    }
+
+    /** Of a TUPLE whose FIELD is v, and whose other FIELD is far from it, FIELD i. */
+    private static int withField(int field, int v, int i) {
+        return i == field ? v : (v + 5) % 10;
+    }
+
+    private static void comeWith(JoinRouter x, int relation, int field, int v) {
+        x.come(relation, withField(field, v, 0), withField(field, v, 1));
     }
 
     @Says("or a FILTER: a FIELD of a RELATION is below (0), as (1), above (2) a number 0 .. 9.")
@@ -902,7 +917,77 @@ public final class EdgesOfTermsTest extends Check {
         due(x.come(0, 0, 9), 1);
     }
 
+    @Says("SUM (\"<\" | \">\" | \"=\") SUM.")
+    static void comparedAtTheEdge() {
+        int[] numbers = {-1, 0, 1};
+        for (int d : numbers) {
+            String two = "5" + (d < 0 ? "-1" : d > 0 ? "+1" : "");
+            for (String sign : new String[] {"<", "=", ">"}) {
+                boolean isSo = sign.equals("<") ? d < 0 : sign.equals("=") ? d == 0 : d > 0;
+                if (isSo) {
+                    so(two + sign + "5");
+                } else {
+                    notSo(two + sign + "5");
+                }
+            }
+        }
+        notSo("not 3<4");
+        so("not 4<4");
+        so("not 4>4");
+        so("not 4=5");
+        so("not not 4=4");
+    }
+
+    private static final String[] ALL_WORDS = ("tickets op relation a b size marks mood stamp done latest results operators held costs bars come strike window index with to "
+            + "times if or and not field x none undo feed").split(" ");
+
+    @Says("| a word, as told.")
+    static void wordsAsParts() {
+        String ofLaws = " op relation a b size tickets marks stamp mood ";
+        String ofOrders = " stamp done latest results operators ";
+        for (String word : ALL_WORDS) {
+            boolean inLaws = ofLaws.contains(" " + word + " ");
+            due(word, lawFault("costs " + word), inLaws ? NONE : 6);
+            due(word, lawFault("bars if 1=" + word), inLaws ? NONE : 10);
+            due(word, lawFault("bars if [" + word + "]=1"), inLaws ? NONE : 9);
+            boolean inOrders = ofOrders.contains(" " + word + " ");
+            boolean withMore = word.equals("held") || word.equals("tickets");
+            due(word, ordersFault("strike " + word), inOrders ? NONE : withMore ? 7 + word.length() : 7);
+            due(word, ordersFault("strike " + word + " 0"), inOrders ? 8 + word.length() : withMore ? NONE : 7);
+        }
+    }
+
+    @Says("CLAUSE: (\"costs\" SUM | \"bars\") [\"if\" TEST].")
+    static void wordsThatBeginLaws() {
+        for (String word : ALL_WORDS) {
+            int alone = word.equals("bars") ? NONE : word.equals("costs") ? 5 : 0;
+            due(word, lawFault(word), alone);
+            due(word, lawFault("bars;" + word), alone == NONE ? NONE : 5 + alone);
+            due(word, lawFault("bars " + word), word.equals("if") ? 7 : 5);
+            due(word, lawFault("costs 1 " + word), word.equals("if") ? 10 : 8);
+            due(word, lawFault("bars if 1=1 " + word), word.equals("or") ? 14 : word.equals("and") ? 15 : 12);
+            due(word, lawFault("bars if 1=1 " + word + ";bars"), word.equals("or") ? 14 : word.equals("and") ? 15 : 12);
+            due(word, lawFault("bars if (1=1 " + word + ")"), word.equals("or") ? 15 : word.equals("and") ? 16 : 13);
+        }
+    }
+
     // ---- II: ORDERS
+
+    @Says("CLAUSE: (\"come\" SUM \"with\" SUM \"and\" SUM | \"strike\" SUM | \"window\" SUM \"to\" SUM | \"index\" SUM \"to\" SUM) [\"times\" TIMES] [\"if\" TEST].")
+    static void wordsThatBeginOrders() {
+        for (String word : ALL_WORDS) {
+            boolean begins = " come strike window index ".contains(" " + word + " ");
+            due(word, ordersFault(word), begins ? word.length() : 0);
+            due(word, ordersFault(word + " 0 to 1"), !begins ? 0 : word.equals("window") || word.equals("index") ? NONE : word.length() + 3);
+            due(word, ordersFault(word + " 0"), !begins ? 0 : word.equals("strike") ? NONE : word.length() + 2);
+            due(word, ordersFault("come 0 " + word + " 0 and 0"), word.equals("with") ? NONE : 7);
+            due(word, ordersFault("come 0 with 0 " + word + " 0"), word.equals("and") ? NONE : 14);
+            due(word, ordersFault("come 0 with 0 and 0 " + word), word.equals("times") ? 25 : word.equals("if") ? 22 : 20);
+            due(word, ordersFault("window 0 " + word + " 0"), word.equals("to") ? NONE : 9);
+            due(word, ordersFault("index 0 " + word + " 0"), word.equals("to") ? NONE : 8);
+            due(word, ordersFault("strike 0 if 1=1 " + word), word.equals("or") ? 18 : word.equals("and") ? 19 : 16);
+        }
+    }
 
     @Says("TIMES: a NUMBER 1 .. 20.")
     static void timesToTwenty() {
