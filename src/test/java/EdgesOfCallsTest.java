@@ -1211,6 +1211,61 @@ public final class EdgesOfCallsTest extends Check {
         due(x.count(17), 1);
     }
 
+    @Says("0 OPERATORS, 1 the STAMP of the latest TUPLE (0: none), 2 how many RESULTS there were ever, 3 SEEN, 4 LAWS, 5 how many can be undone, 6 bytes of the TAPE")
+    static void p39CountOfWhatThereIs() {
+        JoinRouter x = new JoinRouter();
+        int[] n = new int[7];
+        for (int i = 0; i < 6; i++) {
+            if (i < 4) {
+                x.filter(0, 0, 0, 9);
+                n[0]++;
+                n[5]++;
+            }
+            x.come(0, i, 0);
+            n[1]++;
+            n[2]++;
+            n[5]++;
+            x.seen(0, 0);
+            n[3]++;
+            law(x, "costs 1");
+            n[4]++;
+            n[6] = 20 * i + 3;
+            x.end(0);
+            for (int j = 0; j <= i; j++) {
+                x.feed(0, 0, 0, 0, 0);
+            }
+            x.end(n[6]);
+            for (int what = 0; what < 7; what++) {
+                due("count(" + what + ")", x.count(what), n[what]);
+            }
+        }
+        x.undo();
+        due(x.count(2), 5);
+        due(x.count(5), 9);
+        due(x.count(1), 5);
+    }
+
+    @Says("12 the LAW in FORCE, 13 .. 15 TERMS 0 .. 2")
+    static void p39CountOfTerms() {
+        JoinRouter x = new JoinRouter();
+        law(x, "costs 1");
+        law(x, "costs 1");
+        x.force(1);
+        x.terms(0, 7);
+        x.terms(1, 8);
+        x.terms(2, 9);
+        int[] want = {1, 7, 8, 9};
+        for (int i = 0; i < 4; i++) {
+            due(x.count(12 + i), want[i]);
+        }
+    }
+
+    @Says("`NOTHING = -1000`: What is not there, where it could be below 0.")
+    static void constants() {
+        due(JoinRouter.NONE, -1);
+        due(JoinRouter.NOTHING, -1000);
+    }
+
     @Says("1 the STAMP of the latest TUPLE (0: none)")
     static void p39CountOfStamps() {
         JoinRouter x = new JoinRouter();

@@ -40,6 +40,107 @@ public final class EdgesOfComingTest extends Check {
         due(x.filter(0, 0, 0, 9), 0);
     }
 
+    @Says("An OPERATOR is OPEN to it, if it has not its MARK and has a TUPLE of the FILTER's RELATION, of one of the JOIN's RELATIONS at least.")
+    static void whatIsOpen() {
+        // By its TICKETS one sees whether the OPERATOR took it.
+        for (int of = 0; of < 3; of++) {
+            for (int r = 0; r < 3; r++) {
+                JoinRouter x = new JoinRouter();
+                x.filter(of, 0, 1, 9);
+                x.come(r, 0, 0);
+                due(x.operator(0, 5), r == of ? 1 : 0);
+                JoinRouter y = new JoinRouter();
+                y.join(of, 0, (of + 1) % 3, 0);
+                y.come(r, 0, 0);
+                due(y.operator(0, 5), r == of || r == (of + 1) % 3 ? 1 : 0);
+            }
+        }
+        // A TUPLE that came by a JOIN opens what could not take the first one; a MARK shuts it out.
+        JoinRouter x = new JoinRouter();
+        x.come(1, 5, 5);
+        x.filter(1, 0, 1, 9);
+        x.join(0, 0, 1, 0);
+        x.join(1, 1, 2, 0);
+        x.come(0, 5, 0);
+        due(x.operator(0, 5), 1);
+        due(x.operator(1, 5), 0);
+        due(x.operator(2, 5), 0);
+        due(x.count(17), 1);
+    }
+
+    @Says("if it is so, the PARTIAL has its MARK then, the OPERATOR a TICKET less, and that goes on; if not, it is lost.")
+    static void soOrLost() {
+        JoinRouter x = new JoinRouter();
+        x.filter(0, 0, 0, 5);
+        due(x.come(0, 4, 0), 1);
+        due(x.operator(0, 5), 0);
+        due(x.come(0, 5, 0), 0);
+        due(x.operator(0, 5), 1);
+        due(x.come(0, 4, 0), 1);
+        due(x.operator(0, 5), 1);
+        JoinRouter y = new JoinRouter();
+        y.come(1, 3, 3);
+        y.join(0, 0, 1, 0);
+        y.join(1, 1, 0, 1);
+        due(y.come(0, 3, 3), 1);
+        due(y.operator(0, 5), 0);
+        due(y.operator(1, 5), 0);
+        due(y.come(0, 3, 4), 0);
+        due(y.operator(0, 5), 0);
+        due(y.operator(1, 5), 1);
+        due(y.result(0, 0), NONE);
+    }
+
+    @Says("(what it COSTS is asked ahead of that)")
+    static void costsAheadOfTheTicket() {
+        JoinRouter x = new JoinRouter();
+        x.filter(0, 0, 1, 9);
+        law(x, "costs 10+tickets");
+        for (int n = 0; n < 5; n++) {
+            due(x.compare(0, 0, 0, 0), 10 + n);
+            due(x.come(0, 0, 0), 0);
+            due(x.operator(0, 5), n + 1);
+        }
+        // Of the second of two PARTIALS that an OPERATOR takes: as the first one left them.
+        JoinRouter y = new JoinRouter();
+        comeAll(y, 1, 3, 0, 3, 0);
+        y.join(0, 0, 1, 0);
+        y.filter(1, 1, 1, 9);
+        law(y, "costs 0; costs 10+tickets if op=1");
+        due(y.compare(0, 0, 3, 0), 10 + 11);
+    }
+
+    @Says("and that goes on till all that comes of it has ended; then the next one; then the STATE is shut.")
+    static void oneBehindAnother() {
+        JoinRouter x = new JoinRouter();
+        comeAll(x, 1, 3, 5, 3, 6);
+        comeAll(x, 2, 5, 0, 6, 0, 5, 0, 6, 0);
+        x.join(0, 0, 1, 0);
+        x.join(1, 1, 2, 0);
+        due(x.come(0, 3, 0), 4);
+        int[][] stamps = {{1, 3}, {1, 5}, {2, 4}, {2, 6}};
+        for (int i = 0; i < 4; i++) {
+            due(x.result(i, 0), 7);
+            due(x.result(i, 1), stamps[i][0]);
+            due(x.result(i, 2), stamps[i][1]);
+        }
+        int[] shut = {2, 2, 1, NONE};
+        for (int i = 0; i < 4; i++) {
+            due(x.shut(i), shut[i]);
+        }
+        due(x.deepest(), 2);
+        // The TUPLE of a STATE that is shut is no more in what comes behind it.
+        JoinRouter y = new JoinRouter();
+        comeAll(y, 1, 3, 5, 3, 6);
+        y.come(2, 6, 0);
+        y.join(0, 0, 1, 0);
+        y.join(1, 1, 2, 0);
+        due(y.come(0, 3, 0), 1);
+        due(y.count(17), 3);
+        due(y.result(0, 1), 2);
+        due(y.result(0, 2), 3);
+    }
+
     @Says("A PARTIAL that has all MARKS is a RESULT")
     static void withoutOperators() {
         JoinRouter x = new JoinRouter();
@@ -548,6 +649,62 @@ public final class EdgesOfComingTest extends Check {
         due(x.come(0, 5, 5), -5);
     }
 
+    @Says("BRINGS: how many RESULTS a TUPLE would have, did it come now; what that would COST.")
+    static void bringsAsItComes() {
+        JoinRouter x = new JoinRouter();
+        x.join(0, 0, 1, 0);
+        x.join(1, 1, 2, 1);
+        x.filter(0, 1, 0, 5);
+        law(x, "costs size+tickets+2");
+        x.force(0);
+        for (int i = 0; i < 40; i++) {
+            int r = i % 3;
+            int a = i / 3 % 2;
+            int b = i * i % 7;
+            int cost = x.brings(r, a, b, 1);
+            int results = x.brings(r, a, b, 0);
+            due(x.compare(0, r, a, b), cost);
+            if (cost > 1) {
+                x.terms(0, cost - 1);
+                due(x.come(r, a, b), -5);
+            }
+            x.terms(0, Math.max(1, cost));
+            due(x.come(r, a, b), results);
+        }
+        due(x.count(2) > 0);
+    }
+
+    @Says("(whatever TICKETS; \"tickets\" are as they would be)")
+    static void cheapestWithTickets() {
+        // Told apart by their TICKETS: 0 has three, 1 none.
+        JoinRouter x = new JoinRouter();
+        x.filter(0, 0, 1, 9);
+        for (int i = 0; i < 3; i++) {
+            x.come(0, 0, 0);
+        }
+        x.filter(0, 1, 1, 9);
+        due(x.operator(0, 5), 3);
+        law(x, "costs 10+tickets");
+        x.force(0);
+        due(x.brings(0, 0, 0, 1), 13);
+        due(x.cheapest(0, 0, 0, NONE), 10);
+        due(x.cheapest(0, 0, 0, 0), 1);
+        due(x.cheapest(0, 0, 0, 1), 0);
+        // Let through it has one less again: 13 and 10 either way, the first row.
+        due(x.cheapest(0, 9, 9, NONE), 23);
+        due(x.cheapest(0, 9, 9, 0), 0);
+        due(x.operator(0, 5), 3);
+        due(x.operator(1, 5), 0);
+        // With many of them TICKETS rise from one PARTIAL to the next.
+        JoinRouter y = new JoinRouter();
+        comeAll(y, 1, 3, 0, 3, 0, 3, 0);
+        y.join(0, 0, 1, 0);
+        y.filter(1, 1, 1, 9);
+        law(y, "costs 0; costs 10+tickets if op=1");
+        y.force(0);
+        due(y.cheapest(0, 3, 0, NONE), 10 + 11 + 12);
+    }
+
     @Says("so that it COSTS least together; the first such as a row (without OPERATORS it COSTS 0).")
     static void cheapestRows() {
         JoinRouter none = new JoinRouter();
@@ -854,6 +1011,27 @@ public final class EdgesOfComingTest extends Check {
         due(x.drawn(2, 1) > 0);
     }
 
+    @Says("at 0 .. 6 (the last DRAW)")
+    static void theLastDraw() {
+        boolean[] met = new boolean[8];
+        for (int seed = 0; seed < 200; seed++) {
+            long s = seed;
+            int relation = 0;
+            for (int j = 0; j < 4; j++) {
+                s = (s * 1103 + 12345) % 1000003;
+                relation = j == 0 ? (int) (s % 3) : relation;
+            }
+            int last = (int) (s % 8);
+            JoinRouter x = new JoinRouter();
+            due(x.days(seed, 1), last < 7 ? 1 : 0);
+            due(x.drawn(relation, 1), last < 7 ? 1 : 0);
+            met[last] = true;
+        }
+        for (boolean one : met) {
+            due(one);
+        }
+    }
+
     @Says("a TUPLE of the RELATION of the first with FIELDS the second, the third COMES")
     static void fieldsOfDays() {
         for (int field = 0; field <= 1; field++) {
@@ -947,6 +1125,26 @@ public final class EdgesOfComingTest extends Check {
         for (int r = 0; r < 3; r++) {
             due(x.drawn(r, 1), want[r + 1]);
         }
+    }
+
+    @Says("A ROW: the TAPE's bytes by threes: RELATION, FIELDS: a TUPLE COMES")
+    static void rowsByThrees() {
+        JoinRouter x = new JoinRouter();
+        x.join(0, 0, 1, 0);
+        due(row(x, 0, 5, 6, 1, 5, 7, 2, 8, 9), 3);
+        due(x.tuple(0, 0, 0), 5);
+        due(x.tuple(0, 0, 1), 6);
+        due(x.tuple(1, 0, 1), 7);
+        due(x.tuple(2, 0, 0), 8);
+        due(x.tuple(2, 0, 1), 9);
+        due(x.tuple(2, 0, 2), 3);
+        due(x.count(2), 1);
+        due(x.operator(0, 5), 1);
+        // A STRAY shifts nothing.
+        due(row(x, 9, 9, 9, 0, 1, 1, 0, 9, 10, 2, 2, 2), 2);
+        due(x.strays(), 2);
+        due(x.tuple(0, 1, 2), 4);
+        due(x.tuple(2, 1, 2), 5);
     }
 
     @Says("one that can't be (REFUSED by whatever), one within which the TAPE ends is a STRAY: nothing.")

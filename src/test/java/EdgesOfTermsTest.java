@@ -917,6 +917,53 @@ public final class EdgesOfTermsTest extends Check {
         due(x.come(0, 0, 9), 1);
     }
 
+    @Says("TEST: BOTH {\"or\" BOTH}. BOTH: PLAIN {\"and\" PLAIN}. PLAIN: \"not\" PLAIN | \"(\" TEST \")\"")
+    static void testsWithinTests() {
+        String yes = "1=1";
+        String no = "1=2";
+        // All of three, by "and" ahead of "or", "not" of the next one alone.
+        for (int bits = 0; bits < 8; bits++) {
+            boolean a = (bits & 1) != 0;
+            boolean b = (bits & 2) != 0;
+            boolean c = (bits & 4) != 0;
+            String x = a ? yes : no;
+            String y = b ? yes : no;
+            String z = c ? yes : no;
+            isSo(x + " or " + y + " and " + z, a || b && c);
+            isSo(x + " and " + y + " or " + z, a && b || c);
+            isSo("(" + x + " or " + y + ") and " + z, (a || b) && c);
+            isSo(x + " and (" + y + " or " + z + ")", a && (b || c));
+            isSo("not " + x + " or " + y, !a || b);
+            isSo("not " + x + " and " + y, !a && b);
+            isSo("not (" + x + " or " + y + ")", !(a || b));
+            isSo("not not " + x + " and not " + y, a && !b);
+            isSo("(" + x + ")or(" + y + ")or(" + z + ")", a || b || c);
+            isSo(x + " and " + y + " and " + z, a && b && c);
+        }
+        // As many as there is room for.
+        isSo(no + many(" or " + no, 22) + " or " + yes, true);
+        isSo(yes + many(" and " + yes, 22) + " and " + no, false);
+        isSo(many("not ", 40) + yes, true);
+        isSo(many("not ", 41) + yes, false);
+    }
+
+    private static void isSo(String test, boolean isSo) {
+        due(test, costBy("costs 50; costs 60 if " + test), isSo ? 60 : 50);
+    }
+
+    @Says("SUM: TERM {(\"+\" | \"-\") TERM}. TERM: PART {(\"*\" | \"/\" | \"%\") PART}.")
+    static void sumsFromTheLeft() {
+        String[] sum = {"20-3-4", "20-[3-4]", "20-3+4", "60/6/2", "60/[6/2]", "60/6*2", "60%7%3", "60%[7%4]", "7*9%5", "7*[9%5]", "2+3*4", "[2+3]*4", "2*3+4", "2*[3+4]",
+            "20-6/4", "20-6%4", "[[[5]]]", "1+1+1+1+1+1+1+1", "90-1-1-1-1-1-1", "1*2*3*4", "9/2*2", "9*2/2"};
+        int[] is = {13, 21, 21, 5, 20, 20, 1, 0, 3, 28, 14, 20, 10, 14, 19, 18, 5, 8, 84, 24, 8, 9};
+        due(sum.length, is.length);
+        for (int i = 0; i < sum.length; i++) {
+            due(sum[i], costBy("costs " + sum[i]), is[i]);
+        }
+        due(costBy("costs 1" + many("+1", 49)), 50);
+        due(costBy("costs 60" + many("-1", 49)), 11);
+    }
+
     @Says("SUM (\"<\" | \">\" | \"=\") SUM.")
     static void comparedAtTheEdge() {
         int[] numbers = {-1, 0, 1};
@@ -1037,6 +1084,37 @@ public final class EdgesOfTermsTest extends Check {
         String comes = "come 0 with 0 and 0 times 2 if 1=1" + many(";come 0 with 0 and 0 times 2 if 1=1", 9);
         due(ordersFault(comes), NONE);
         due(ordersFault(comes + ";strike 0"), comes.length() + 8);
+    }
+
+    @Says("(a RELATION, both FIELDS; an OPERATOR; a RELATION, a WINDOW; a RELATION, an INDEX.)")
+    static void whichSumIsWhich() {
+        JoinRouter x = new JoinRouter();
+        x.filter(0, 0, 0, 1);
+        x.filter(0, 0, 0, 2);
+        x.filter(0, 0, 0, 3);
+        due(orders(x, "come 2 with 3 and 4; window 1 to 2; index 2 to 0; strike 1"), 4);
+        due(x.tuple(2, 0, 0), 3);
+        due(x.tuple(2, 0, 1), 4);
+        due(x.relation(1, 0), 2);
+        due(x.relation(2, 0), 4);
+        due(x.relation(2, 1), 0);
+        due(x.relation(0, 1), 2);
+        due(x.count(0), 2);
+        due(x.operator(1, 4), 3);
+        due(x.operator(0, 4), 1);
+    }
+
+    @Says("Run CLAUSE by CLAUSE")
+    static void clauseByClause() {
+        JoinRouter x = new JoinRouter();
+        due(orders(x, "come 0 with 1 and 1 times 2; come 1 with 2 and 2; come 0 with 3 and 3 times 2"), 5);
+        int[] first = {1, 1, 3, 3};
+        int[] stamp = {1, 2, 4, 5};
+        for (int i = 0; i < 4; i++) {
+            due(x.tuple(0, i, 0), first[i]);
+            due(x.tuple(0, i, 2), stamp[i]);
+        }
+        due(x.tuple(1, 0, 2), 3);
     }
 
     @Says("each as often as TIMES tell (once without)")
