@@ -1038,12 +1038,9 @@ public final class JoinRouter {
                 return;
             }
             int operator = chosen(marks);
-            if (operator != NONE) {
-                takeBy(operator, marks, depth);
+            if (operator == NONE) {
+                return;
             }
-        }
-
-        private void takeBy(int operator, int marks, int depth) {
             int opened = relationToOpen(operator);
             int costs = costOf(operator, opened == NONE ? 1 : looksAt(operator, opened), depth);
             if (cost + costs > budget) {

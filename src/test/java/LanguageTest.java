@@ -6,6 +6,8 @@ import java.nio.file.Files;
 import java.nio.file.Path;
 import java.util.ArrayList;
 import java.util.List;
+import java.util.Map;
+import java.util.TreeMap;
 import java.util.TreeSet;
 import java.util.regex.Matcher;
 import java.util.regex.Pattern;
@@ -112,6 +114,7 @@ public final class LanguageTest {
             ask(List.of("System.arraycopy", "Math.max", "Math.min").contains(library.group()), "in the library: " + library.group());
         }
         methodsAreShort(source);
+        callsStayFlat(code);
     }
 
     private static void methodsAreShort(String source) {
@@ -126,6 +129,86 @@ public final class LanguageTest {
                 ask(end - i + 1 <= 60, "a method of some sixty lines: " + lines[i].strip());
             }
         }
+    }
+
+    /** Calls go at most eight deep, where methods that call one another in a ring count as one; and which rings there are. */
+    private static void callsStayFlat(String code) {
+        Map<String, String> bodies = bodies(code);
+        List<String> names = new ArrayList<>(bodies.keySet());
+        boolean[][] reach = reach(names, bodies);
+        TreeSet<String> inRings = new TreeSet<>();
+        for (int i = 0; i < names.size(); i++) {
+            if (reach[i][i]) {
+                inRings.add(names.get(i));
+            }
+        }
+        ask(names.size() > 120, "the methods were found: " + names.size());
+        ask(inRings.equals(new TreeSet<>(List.of("Route.pass", "Route.passAll", "Reader.readTest", "Reader.readBoth", "Reader.readPlain",
+                "Reader.readSum", "Reader.readTerm", "Reader.readPart"))), "recursion only where its depth is carried: " + inRings);
+        int[] deep = new int[names.size()];
+        int most = 0;
+        for (int i = 0; i < names.size(); i++) {
+            most = Math.max(most, deep(i, reach, deep));
+        }
+        ask(most >= 5 && most <= 8, "calls go at most eight deep: " + most);
+    }
+
+    /** What stands in each method, by class and name. */
+    private static Map<String, String> bodies(String code) {
+        Map<String, String> bodies = new TreeMap<>();
+        String inside = "";
+        String current = "";
+        for (String line : code.split("\n")) {
+            Matcher type = Pattern.compile("^    private static final class (\\w+) \\{$").matcher(line);
+            Matcher head = Pattern.compile("^( {4}| {8})(?:(?:public|private|static|final) )*[\\w\\[\\]]+ (\\w+)\\(.*\\) \\{$").matcher(line);
+            if (type.matches()) {
+                inside = type.group(1);
+            } else if (head.matches()) {
+                current = (head.group(1).length() == 4 ? "JoinRouter" : inside) + "." + head.group(2);
+                bodies.put(current, "");
+            } else if (!current.isEmpty()) {
+                bodies.put(current, bodies.get(current) + line + "\n");
+            }
+        }
+        return bodies;
+    }
+
+    private static boolean[][] reach(List<String> names, Map<String, String> bodies) {
+        int n = names.size();
+        boolean[][] reach = new boolean[n][n];
+        for (int i = 0; i < n; i++) {
+            String own = names.get(i).replaceAll("\\..*", ".");
+            Matcher call = Pattern.compile("(\\.)?\\b(\\w+)\\(").matcher(bodies.get(names.get(i)));
+            while (call.find()) {
+                for (int j = 0; j < n; j++) {
+                    // A call of another object is taken as one of each class that has such a method; one without is of the own class, or of the outer one.
+                    boolean isOfOwn = names.get(j).startsWith(own);
+                    boolean mayBe = call.group(1) == null ? isOfOwn || names.get(j).startsWith("JoinRouter.") : !isOfOwn;
+                    reach[i][j] |= mayBe && names.get(j).endsWith("." + call.group(2));
+                }
+            }
+        }
+        for (int k = 0; k < n; k++) {
+            for (int i = 0; i < n; i++) {
+                for (int j = 0; j < n; j++) {
+                    reach[i][j] |= reach[i][k] && reach[k][j];
+                }
+            }
+        }
+        return reach;
+    }
+
+    private static int deep(int i, boolean[][] reach, int[] deep) {
+        if (deep[i] == 0) {
+            int below = 0;
+            for (int j = 0; j < reach.length; j++) {
+                if (reach[i][j] && !reach[j][i]) {
+                    below = Math.max(below, deep(j, reach, deep));
+                }
+            }
+            deep[i] = below + 1;
+        }
+        return deep[i];
     }
 
     /** 512 of the calls that make most must leave the room far from full. */
